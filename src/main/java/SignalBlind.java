@@ -532,7 +532,7 @@ public final class SignalBlind {
     }
 
     private boolean isSender(int sender) {
-        return sender >= 0 && sender < now.senderCount;
+        return sender >= 0 && sender < now.senderCount && now.senders[sender] != null;
     }
 
     // ---- signs
@@ -939,6 +939,7 @@ public final class SignalBlind {
         final Row words = new Row(8);
         final Sender[] senders = new Sender[SENDERS];
         int senderCount = 0;
+        // Of senders that are not there these two are 0, as a new sender's have to be: an image's are copied whole.
         final int[] sent = new int[SENDERS];
         final int[] rows = new int[SENDERS * PARTS];
         int hour = 0;
@@ -952,11 +953,6 @@ public final class SignalBlind {
             int number = senderCount;
             if (number < SENDERS) {
                 senders[number] = one;
-                // An undone sender of that number may have left its own here.
-                sent[number] = 0;
-                for (int part = 0; part < PARTS; part++) {
-                    rows[number * PARTS + part] = 0;
-                }
                 senderCount++;
             }
             return number;

@@ -23,6 +23,7 @@ public final class TapeTest {
         check.due("tape(0, 0, MIN)", x.tape(0, 0, Integer.MIN_VALUE), -14);
         check.due("nothing is there", x.item(0, 0, 1), -11);
         check.due("tape(0, 3, 60)", x.tape(0, 3, 60), 1);
+        check.due("the first is there", x.item(0, 0, 8), 1);
         check.due("the last is there", x.item(0, 59, 8), 1);
         check.due("and no more", x.item(0, 60, 8), -13);
         check.due("it is so", x.read(0, 59), 8);
@@ -30,6 +31,7 @@ public final class TapeTest {
         check.due("it is still so", x.read(0, 59), 8);
         check.due("anew", x.tape(0, 3, 60), 1);
         check.due("all 0", x.read(0, 59), 0);
+        check.due("the first too", x.read(0, 0), 0);
         check.due("none of it", x.tape(0, 2, 0), 1);
         check.due("no place", x.read(0, 0), SignalBlind.NO);
         check.due("no place for an item", x.item(0, 0, 1), -13);

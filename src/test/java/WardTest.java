@@ -182,6 +182,8 @@ public final class WardTest {
         }
         check.due("ten sent", x.shows(0, 0), 2 * (1 + 8));
         check.due("below", shown("open 0 v<3;open 1 v<4;open 2 v=03;open 3 v>3;open 4 v>2", 0), 2 + 4 + 16);
+        check.due("nothing is below 0", shown("open 0 s<0;open 1 k<0;open 2 v<0;open 3 o<0;open 4 f<0;open 5 h<0", 0), 0);
+        check.due("but below 1", shown("open 0 s<1;open 1 k<1;open 2 v<1;open 3 o<1;open 4 f<1;open 5 h<1", 0), 59);
         check.due("two digits", shown("open 0 v<30;open 1 v=30;open 2 v>30", 0), 1);
     }
 
