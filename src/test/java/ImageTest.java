@@ -7,6 +7,7 @@ public final class ImageTest {
         whatIsNotInTheImage();
         newOnesBehindUndo();
         emptyImage();
+        allOfAllSenders();
         check.end();
     }
 
@@ -141,5 +142,38 @@ public final class ImageTest {
         check.due("no WARD holds", x.told(1), 2);
         check.due("HOUR", x.told(0), 0);
         check.due("but there is one", x.count(2), 1);
+    }
+
+    private static void allOfAllSenders() {
+        SignalBlind x = new SignalBlind();
+        for (int k = 0; k < 8; k++) {
+            x.word(k);
+        }
+        for (int s = 0; s < 5; s++) {
+            x.sender(6, s);
+            for (int part = 0; part < 4; part++) {
+                x.row(s, part, (s + part) % 10);
+            }
+        }
+        x.image();
+        for (int s = 0; s < 5; s++) {
+            x.say(s, s);
+            for (int part = 0; part < 4; part++) {
+                x.row(s, part, 9);
+            }
+        }
+        for (int k = 0; k < 8; k++) {
+            x.alter(k, 1000);
+        }
+        check.due("undo()", x.undo(), 5);
+        for (int s = 0; s < 5; s++) {
+            check.due("SENT of " + s, x.of(s, 2), 0);
+            for (int part = 0; part < 4; part++) {
+                check.due("ROW of " + s + " at " + part, x.row(s, part, 0), (s + part) % 10);
+            }
+        }
+        for (int k = 0; k < 8; k++) {
+            check.due("word " + k, x.told(10 + k), k);
+        }
     }
 }

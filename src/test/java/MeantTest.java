@@ -119,6 +119,11 @@ public final class MeantTest {
         check.due("passed(0, -2)", x.passed(0, -2), SignalBlind.NONE);
         check.due("passed(0, 5)", x.passed(0, 5), SignalBlind.NONE);
         check.due("nothing is sent", x.of(0, 2), 0);
+        SignalBlind y = new SignalBlind();
+        y.word(341);
+        y.sender(1, 0);
+        check.due("all slats are unlike", y.passed(0, -1), 10);
+        check.due("by the one order", y.passed(0, 0), 0);
     }
 
     private static void dueOrder(SignalBlind x, int word, int... order) {
